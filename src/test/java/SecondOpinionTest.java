@@ -4,6 +4,7 @@ import java.util.TreeMap;
 /** Many runs of calls by a fixed seed: CoachCourt and PlainCourt must answer alike. */
 public final class SecondOpinionTest {
     private static final int RUNS = 1500;
+    private static final int TEXTS = 20000;
     private static final int CALLS = 512;
     private static final TreeMap<String, TreeMap<Long, Integer>> ANSWERS = new TreeMap<>();
 
@@ -18,7 +19,11 @@ public final class SecondOpinionTest {
 
     public static void main(String[] args) {
         for (int run = 0; run < RUNS; run++) {
-            new SecondOpinionTest(run).run(run);
+            new SecondOpinionTest(run).runAll(run);
+        }
+        for (int run = RUNS; run < RUNS + TEXTS; run++) {
+            SecondOpinionTest text = new SecondOpinionTest(run);
+            text.tell(run, text.spoilt(text.dice.nextBoolean() ? text.roadText() : text.smallText()));
         }
         if (args.length > 0) {
             ANSWERS.forEach((call, all) -> System.out.println(call + " " + all));
@@ -26,7 +31,7 @@ public final class SecondOpinionTest {
         Due.close("SecondOpinionTest");
     }
 
-    private void run(int run) {
+    private void runAll(int run) {
         if (dice.nextInt(10) > 0) {
             tell(run, roadText());
         }
@@ -90,11 +95,22 @@ public final class SecondOpinionTest {
         return text.toString();
     }
 
+    /** Short lines, many of them told too often. */
+    private String smallText() {
+        String[] lines = {"mile 0 0;", "mile 0 0;", "mile 3 3;", "mud 0;", "mud 1;", "mud 7;", "room 1;", "snow 9;", "lame 9 9 1 0;",
+            "lame 0 1 0 7;", "plain 5 5 2 1;"};
+        StringBuilder text = new StringBuilder();
+        while (text.length() < 20 + dice.nextInt(120)) {
+            text.append(lines[dice.nextInt(lines.length)]);
+        }
+        return text.toString();
+    }
+
     private String spoilt(String text) {
         String[] bits = {"mile", "mud 7;", "mud 0;", "room 2;", "snow 3;", "plain", "1", "9", " ", ";", "12", "345", "x", "A", "-",
             "mile 0 0;", "lame 9 9 1 0;", "counsel", "8", "  ", "mud", "room", "mud 1;", "00", "20", "21"};
         StringBuilder out = new StringBuilder(text);
-        for (int i = dice.nextInt(4); i >= 0; i--) {
+        for (int i = dice.nextInt(4); i > 0; i--) {
             int at = dice.nextInt(out.length() + 1);
             if (dice.nextInt(3) == 0) {
                 out.delete(at, Math.min(out.length(), at + 1 + dice.nextInt(3)));
