@@ -24,7 +24,8 @@ public final class CoachCourt {
     private static final int RULE_ROOM = 2, RULE_SNOW = 3;
 
     // FAULTS of a text, and FAULTS that a machine finds.
-    private static final int UNREADABLE = 1, MISPLACED = 2, OUT_OF_BOUNDS = 3, TOLD_TWICE = 4, TOO_MANY = 5, NO_SUCH_MILE = 6;
+    private static final int UNREADABLE = 1, MISPLACED = 2, OUT_OF_BOUNDS = 3;
+    private static final int TOLD_TWICE = 4, TOO_MANY = 5, NO_SUCH_MILE = 6;
     private static final int NULL_FAULT = 1, INDEX_FAULT = 2, CAST_FAULT = 3, SIZE_FAULT = 4;
     private static final int FAULT_BASE = -10, REFUSED_BASE = -20;
     private static final int BYTES = 0, SHORTS = 1, INTS = 2;
@@ -632,7 +633,10 @@ public final class CoachCourt {
         return many;
     }
 
-    /** THE ROAD: miles, parties, ROOM (places) and SNOW (snowfall). There are never more miles and parties than its rows hold. */
+    /**
+     * THE ROAD: miles, parties, ROOM (places) and SNOW (snowfall). The Teller refuses a mile or party for which
+     * the rows have no place, so whatever hasMile or hasParty affirms is an index of its rows.
+     */
     private static final class Road {
         private final int[] land = new int[MILES_MOST];
         private final int[] hill = new int[MILES_MOST];
@@ -910,12 +914,11 @@ public final class CoachCourt {
             reckonHopes();
             most = -1;
             drive.begin(trial);
-            seekFrom(0, 0);
+            seekFrom(this, 0, 0);
         }
 
-        /** No more of the parties from p on can be heard together than can be heard each alone. */
+        /** No more of the parties from p on can be heard together than each alone; behind the last one there is none. */
         private void reckonHopes() {
-            hopes[PARTIES_MOST] = 0;
             for (int p = PARTIES_MOST - 1; p >= 0; p--) {
                 hopes[p] = hopes[p + 1] + (trial.hasParty(p) && canBeHeardAlone(p) ? 1 : 0);
             }
@@ -934,19 +937,19 @@ public final class CoachCourt {
         }
 
         /** Stones come by number, and only more verdicts than ever before are kept: of several the first stays. */
-        private void seekFrom(int p, int verdicts) {
-            if (p > PARTIES_MOST || verdicts + hopes[p] <= most) {
+        private static void seekFrom(Seeker by, int p, int verdicts) {
+            if (p > PARTIES_MOST || verdicts + by.hopes[p] <= by.most) {
                 return;
             }
-            if (!trial.hasParty(p)) {
-                most = verdicts;
-                System.arraycopy(trial.stone, 0, stones, 0, PARTIES_MOST);
+            if (!by.trial.hasParty(p)) {
+                by.most = verdicts;
+                System.arraycopy(by.trial.stone, 0, by.stones, 0, PARTIES_MOST);
                 return;
             }
-            for (int m = 0; m < trial.miles; m++) {
-                trial.stone[p] = m;
-                drive.runParty(trial, p);
-                seekFrom(p + 1, drive.hasVerdict(p) ? verdicts + 1 : verdicts);
+            for (int m = 0; m < by.trial.miles; m++) {
+                by.trial.stone[p] = m;
+                by.drive.runParty(by.trial, p);
+                seekFrom(by, p + 1, by.drive.hasVerdict(p) ? verdicts + 1 : verdicts);
             }
         }
     }
@@ -1056,7 +1059,6 @@ public final class CoachCourt {
         void rewind() {
             next = 0;
             found = 0;
-            foundAt = 0;
         }
 
         void blame(int fault, int at) {

@@ -127,6 +127,12 @@ public final class SeenTest {
         look("a verdict or none", e, 0, 3);
         Due.due("look(-1)", e.look(-1), -1);
         Due.due("look(2)", e.look(2), -1);
+        CoachCourt f = Due.told("mile 0 0;mile 1 0;plain 3 1 1 0;");
+        look("mile 0 or none", f, 0, 1);
+        CoachCourt g = Due.told("mile 1 0;mile 1 0;mile 1 0;mile 1 0;mile 1 0;mile 1 0;mile 0 0;mile 1 0;counsel 99 1 0 7;");
+        look("mile 7 or none", g, 0, 7);
+        g.see(0, -4);
+        look("none", g, -4, -4);
         look("nobody", Due.told("mile 0 0;mile 1 0;"), -4, -4);
         look("no road", new CoachCourt(), -4, -4);
     }
