@@ -14,13 +14,13 @@ public final class DriveTest {
         Due.close("DriveTest");
     }
 
-    private static void fate(String told, CoachCourt c, int p, int... due) {
+    static void fate(String told, CoachCourt c, int p, int... due) {
         for (int what = 0; what < due.length; what++) {
             Due.due(told + ": fate(" + p + ", " + what + ")", c.fate(p, what), due[what]);
         }
     }
 
-    private static void beside(String told, CoachCourt c, int... due) {
+    static void beside(String told, CoachCourt c, int... due) {
         for (int m = 0; m < due.length; m++) {
             Due.due(told + ": beside(" + m + ")", c.beside(m), due[m]);
         }

@@ -13,6 +13,10 @@ final class Due {
         }
     }
 
+    static int asked() {
+        return asked;
+    }
+
     static void feed(CoachCourt court, String text) {
         for (int i = 0; i < text.length(); i++) {
             court.feed(text.charAt(i));
