@@ -17,35 +17,28 @@ final class BestEdges {
         mean();
     }
 
-    private static void best(String told, CoachCourt c, int many, int... stones) {
-        Due.due(told + ": best(0)", c.best(0), many);
-        for (int p = 0; p < stones.length; p++) {
-            Due.due(told + ": best(" + (10 + p) + ")", c.best(10 + p), stones[p]);
-        }
-    }
-
     private static void best() {
         Sentence.of(18, "Where all are to STAND (MILES there are) so that there are most VERDICTS");
         CoachCourt c = Due.told(FAR + "plain 2 1 0 0;plain 2 1 0 0;plain 2 1 0 0;plain 2 1 0 0;");
-        best("all at the last stone", c, 4, 7, 7, 7, 7);
-        best("each where alone it can", Due.told("mile 0 0;mile 1 0;plain 2 1 1 0;plain 2 1 0 1;"), 2, 1, 0);
-        best("each out of the other's way", Due.told("mile 0 0;mile 1 0;plain 99 1 1 0;plain 99 1 0 1;room 1;"), 2, 1, 0);
+        BestTest.best("all at the last stone", c, 4, 7, 7, 7, 7);
+        BestTest.best("each where alone it can", Due.told("mile 0 0;mile 1 0;plain 2 1 1 0;plain 2 1 0 1;"), 2, 1, 0);
+        BestTest.best("each out of the other's way", Due.told("mile 0 0;mile 1 0;plain 99 1 1 0;plain 99 1 0 1;room 1;"), 2, 1, 0);
         Twins.asked("best", (x, a) -> x.best(a[0]), 0);
         Twins.asked("best", (x, a) -> x.best(a[0]), 13);
         Sentence.of(18, "of several the first by PARTIES, stones by numbers");
         c.set(2, 1);
-        best("ROOM for one", c, 1, 0, 0, 0, 7);
+        BestTest.best("ROOM for one", c, 1, 0, 0, 0, 7);
         c.alter(3, 3, 2);
-        best("the last one can not", c, 1, 0, 0, 7, 0);
-        best("one each", Due.told("mile 0 0;mile 0 0;plain 9 1 0 1;plain 9 1 0 0;room 1;"), 2, 0, 1);
+        BestTest.best("the last one can not", c, 1, 0, 0, 7, 0);
+        BestTest.best("one each", Due.told("mile 0 0;mile 0 0;plain 9 1 0 1;plain 9 1 0 0;room 1;"), 2, 0, 1);
         Sentence.of(18, "how many (what 0)");
-        best("nobody", Due.told("mile 0 0;"), 0);
-        best("none can", Due.told("mile 0 0;mile 0 0;plain 1 1 0 1;plain 9 1 3 1;"), 0, 0, 0);
-        best("SNOW 0", Due.told("mile 0 0;plain 9 1 0 0;snow 0;"), 0, 0);
+        BestTest.best("nobody", Due.told("mile 0 0;"), 0);
+        BestTest.best("none can", Due.told("mile 0 0;mile 0 0;plain 1 1 0 1;plain 9 1 3 1;"), 0, 0, 0);
+        BestTest.best("SNOW 0", Due.told("mile 0 0;plain 9 1 0 0;snow 0;"), 0, 0);
         CoachCourt d = Due.told("mile 1 0;mile 0 0;plain 2 1 0 0;");
-        best("one can", d, 1, 1);
+        BestTest.best("one can", d, 1, 1);
         d.alter(0, 1, 1);
-        best("it can no more", d, 0, 0);
+        BestTest.best("it can no more", d, 0, 0);
         Sentence.of(18, "10 and p: the stone of a PARTY.");
         Due.due("best(10)", c.best(10), 0);
         Due.due("best(12)", c.best(12), 7);
@@ -65,27 +58,22 @@ final class BestEdges {
         Due.due("best(0) of a text of nothing", c.best(0), -2);
     }
 
-    private static void place(String told, CoachCourt c, int p, int stone, int verdict) {
-        Due.due(told + ": place(" + p + ", 0)", c.place(p, 0), stone);
-        Due.due(told + ": place(" + p + ", 1)", c.place(p, 1), verdict);
-    }
-
     private static void place() {
         Sentence.of(19, "Where a PARTY is to STAND, all others as they do, so that its VERDICT is soonest");
         CoachCourt c = Due.told("mile 0 0;mile 1 0;mile 0 0;mile 0 0;plain 99 2 0 3;plain 99 1 0 3;room 1;");
-        place("a VERDICT in MILE 2", c, 0, 0, 2);
-        place("a VERDICT in MILE 0", c, 1, 0, 0);
+        BestTest.place("a VERDICT in MILE 2", c, 0, 0, 2);
+        BestTest.place("a VERDICT in MILE 0", c, 1, 0, 0);
         c.stand(0, 0);
-        place("another in the way", c, 1, 3, 3);
+        BestTest.place("another in the way", c, 1, 3, 3);
         Twins.asked("place", (x, a) -> x.place(a[0], a[1]), 0, 0);
         Sentence.of(19, "of several the last stone (what 0)");
         CoachCourt d = Due.told(FAR + "plain 99 1 0 0;counsel 99 1 0 0;");
-        place("any stone would do", d, 0, 7, 7);
+        BestTest.place("any stone would do", d, 0, 7, 7);
         d.pave(6, 0, 0);
         d.alter(0, 2, 2);
-        place("any stone but the last", d, 0, 6, 7);
+        BestTest.place("any stone but the last", d, 0, 6, 7);
         Sentence.of(19, "in which MILE that VERDICT is (1).");
-        place("counsel", d, 1, 6, 6);
+        BestTest.place("counsel", d, 1, 6, 6);
         Sentence.of(19, "BAD");
         Twins.bad("place", (x, a) -> x.place(a[0], a[1]), new int[] {0, 0}, 0, -1, 4);
         Twins.bad("place", (x, a) -> x.place(a[0], a[1]), new int[] {0, 0}, 1, -1, 2);
@@ -93,9 +81,9 @@ final class BestEdges {
         Due.due("place(0, 0) of no road", new CoachCourt().place(0, 0), -1);
         Sentence.of(19, "NONE: nowhere.");
         d.alter(0, 1, 1);
-        place("no WIND", d, 0, -4, -4);
+        BestTest.place("no WIND", d, 0, -4, -4);
         d.set(3, 0);
-        place("SNOW 0", d, 1, -4, -4);
+        BestTest.place("SNOW 0", d, 1, -4, -4);
     }
 
     private static void never() {
@@ -171,23 +159,18 @@ final class BestEdges {
         Twins.asked("snow", (x, a) -> x.snow());
     }
 
-    private static void rain(String told, CoachCourt c, int where, int many) {
-        Due.due(told + ": rain(0)", c.rain(0), where);
-        Due.due(told + ": rain(1)", c.rain(1), many);
-    }
-
     private static void rain() {
         Sentence.of(24, "The MILE in which MUD is to be, or not to be any more, so that there are most VERDICTS");
-        rain("MUD is to be", Due.told("mile 0 0;plain 99 5 0 0;"), 0, 1);
-        rain("MUD is not to be", Due.told("mile 0 0;mud 0;plain 2 1 0 0;"), 0, 1);
-        rain("MUD in the last of 8", Due.told(FAR + "plain 99 5 0 7;"), 7, 1);
-        rain("the most, not the first that is more", Due.told("mile 0 0;mile 1 0;plain 99 5 0 0;plain 99 5 1 0;plain 99 5 1 1;"), 1, 2);
+        BestTest.rain("MUD is to be", Due.told("mile 0 0;plain 99 5 0 0;"), 0, 1);
+        BestTest.rain("MUD is not to be", Due.told("mile 0 0;mud 0;plain 2 1 0 0;"), 0, 1);
+        BestTest.rain("MUD in the last of 8", Due.told(FAR + "plain 99 5 0 7;"), 7, 1);
+        BestTest.rain("the most, not the first that is more", Due.told("mile 0 0;mile 1 0;plain 99 5 0 0;plain 99 5 1 0;plain 99 5 1 1;"), 1, 2);
         Twins.asked("rain", (x, a) -> x.rain(a[0]), 0);
         Sentence.of(24, "more than as it is");
         CoachCourt c = Due.told("mile 0 0;mile 1 0;plain 99 1 0 0;plain 4 5 1 1;");
-        rain("as many as it is", c, -4, -4);
+        BestTest.rain("as many as it is", c, -4, -4);
         c.alter(1, 1, 5);
-        rain("one more than it is", c, 1, 2);
+        BestTest.rain("one more than it is", c, 1, 2);
         Sentence.of(24, "of several the first (what 0)");
         CoachCourt d = Due.told("mile 1 0;mile 0 0;mile 0 0;mile 0 0;plain 99 5 0 0;");
         Due.due("three would do", d.rain(0), 1);
@@ -197,14 +180,9 @@ final class BestEdges {
         Sentence.of(24, "BAD");
         Twins.bad("rain", (x, a) -> x.rain(a[0]), new int[] {0}, 0, -1, 2);
         Sentence.of(24, "NONE: none.");
-        rain("no road", new CoachCourt(), -4, -4);
-        rain("nobody", Due.told("mile 0 0;"), -4, -4);
-        rain("no MUD helps", Due.told("mile 0 0;plain 99 6 0 0;"), -4, -4);
-    }
-
-    private static void luck(CoachCourt c, int v, int p, long above, long below) {
-        Due.due("luck(" + v + ", " + p + ", 0)", c.luck(v, p, 0), above);
-        Due.due("luck(" + v + ", " + p + ", 1)", c.luck(v, p, 1), below);
+        BestTest.rain("no road", new CoachCourt(), -4, -4);
+        BestTest.rain("nobody", Due.told("mile 0 0;"), -4, -4);
+        BestTest.rain("no MUD helps", Due.told("mile 0 0;plain 99 6 0 0;"), -4, -4);
     }
 
     private static void luck() {
@@ -213,20 +191,20 @@ final class BestEdges {
         for (int muds = 0; muds < 4; muds++) {
             c.pave(0, 2, muds & 1);
             c.pave(1, 2, muds >> 1);
-            luck(c, 0, 0, 0, 1);
-            luck(c, 1, 0, 19, 100);
-            luck(c, 9, 0, 99, 100);
-            luck(c, 10, 0, 1, 1);
-            luck(c, 1, 1, 1, 100);
-            luck(c, 9, 1, 81, 100);
-            luck(c, 10, 1, 1, 1);
+            BestTest.luck(c, 0, 0, 0, 1);
+            BestTest.luck(c, 1, 0, 19, 100);
+            BestTest.luck(c, 9, 0, 99, 100);
+            BestTest.luck(c, 10, 0, 1, 1);
+            BestTest.luck(c, 1, 1, 1, 100);
+            BestTest.luck(c, 9, 1, 81, 100);
+            BestTest.luck(c, 10, 1, 1, 1);
             Due.due("MUD is as it was", c.mile(0, 2) + 2 * c.mile(1, 2), muds);
         }
         Sentence.of(25, "that a PARTY has a VERDICT: 0, 1.");
-        luck(Due.told("mile 0 0;".repeat(8) + "rider 99 9 0 0;"), 1, 0, 56953279, 100000000);
-        luck(Due.told("mile 0 0;".repeat(8) + "rider 99 9 0 0;"), 9, 0, 99999999, 100000000);
-        luck(Due.told("mile 0 0;".repeat(8) + "rider 99 1 0 0;"), 3, 0, 1, 1);
-        luck(Due.told("mile 0 0;plain 99 1 3 0;"), 3, 0, 0, 1);
+        BestTest.luck(Due.told("mile 0 0;".repeat(8) + "rider 99 9 0 0;"), 1, 0, 56953279, 100000000);
+        BestTest.luck(Due.told("mile 0 0;".repeat(8) + "rider 99 9 0 0;"), 9, 0, 99999999, 100000000);
+        BestTest.luck(Due.told("mile 0 0;".repeat(8) + "rider 99 1 0 0;"), 3, 0, 1, 1);
+        BestTest.luck(Due.told("mile 0 0;plain 99 1 3 0;"), 3, 0, 0, 1);
         Twins.asked("luck", (x, a) -> x.luck(a[0], a[1], a[2]), 3, 0, 0);
         Sentence.of(25, "BAD.");
         Twins.bad("luck", (x, a) -> x.luck(a[0], a[1], a[2]), new int[] {5, 0, 0}, 0, -1, 11);
@@ -235,25 +213,20 @@ final class BestEdges {
         Due.due("luck(5, 0, 0) of nobody", Due.told("mile 0 0;").luck(5, 0, 0), -1);
     }
 
-    private static void mean(String told, CoachCourt c, int v, long above, long below) {
-        Due.due(told + ": mean(" + v + ", 0)", c.mean(v, 0), above);
-        Due.due(told + ": mean(" + v + ", 1)", c.mean(v, 1), below);
-    }
-
     private static void mean() {
         Sentence.of(26, "Likewise, the mean of how many VERDICTS: 0, 1.");
         CoachCourt c = Due.told("mile 0 0;mud 0;plain 99 5 0 0;plain 99 1 0 0;plain 4 1 0 0;");
-        mean("no MUD", c, 0, 2, 1);
-        mean("MUD by 1", c, 1, 2, 1);
+        BestTest.mean(c, 0, 2, 1);
+        BestTest.mean(c, 1, 2, 1);
         c.alter(2, 2, 20);
-        mean("MUD by 1, two of them", c, 1, 11, 10);
-        mean("MUD by 9, two of them", c, 9, 19, 10);
-        mean("MUD for sure", c, 10, 2, 1);
+        BestTest.mean(c, 1, 11, 10);
+        BestTest.mean(c, 9, 19, 10);
+        BestTest.mean(c, 10, 2, 1);
         Due.due("MUD is as it was", c.mile(0, 2), 1);
-        mean("all four", Due.told("mile 0 0;".repeat(8) + "rider 9 1 0 0;".repeat(4)), 7, 4, 1);
-        mean("four times nearly sure", Due.told("mile0 0;".repeat(8) + "rider 99 9 0 0;".repeat(4)), 9, 99999999, 25000000);
-        mean("nobody", Due.told("mile 0 0;"), 7, 0, 1);
-        mean("no road", new CoachCourt(), 7, 0, 1);
+        BestTest.mean(Due.told("mile 0 0;".repeat(8) + "rider 9 1 0 0;".repeat(4)), 7, 4, 1);
+        BestTest.mean(Due.told("mile0 0;".repeat(8) + "rider 99 9 0 0;".repeat(4)), 9, 99999999, 25000000);
+        BestTest.mean(Due.told("mile 0 0;"), 7, 0, 1);
+        BestTest.mean(new CoachCourt(), 7, 0, 1);
         Twins.asked("mean", (x, a) -> x.mean(a[0], a[1]), 3, 0);
         Sentence.of(26, "BAD.");
         Twins.bad("mean", (x, a) -> x.mean(a[0], a[1]), new int[] {5, 0}, 0, -1, 11);

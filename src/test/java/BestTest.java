@@ -14,7 +14,7 @@ public final class BestTest {
         Due.close("BestTest");
     }
 
-    private static void best(String told, CoachCourt c, int many, int... stones) {
+    static void best(String told, CoachCourt c, int many, int... stones) {
         Due.due(told + ": best(0)", c.best(0), many);
         for (int p = 0; p < stones.length; p++) {
             Due.due(told + ": best(" + (10 + p) + ")", c.best(10 + p), stones[p]);
@@ -45,7 +45,7 @@ public final class BestTest {
         best("short of wind", Due.told("mile 1 3;mile 1 3;mile 0 0;lame 9 1 0 0;plain 12 1 0 0;"), 2, 2, 2);
     }
 
-    private static void place(String told, CoachCourt c, int p, int stone, int verdict) {
+    static void place(String told, CoachCourt c, int p, int stone, int verdict) {
         Due.due(told + ": place(" + p + ", 0)", c.place(p, 0), stone);
         Due.due(told + ": place(" + p + ", 1)", c.place(p, 1), verdict);
     }
@@ -126,7 +126,7 @@ public final class BestTest {
         Due.due("the latest snow that there is", d.snow(), 78);
     }
 
-    private static void rain(String told, CoachCourt c, int where, int many) {
+    static void rain(String told, CoachCourt c, int where, int many) {
         Due.due(told + ": rain(0)", c.rain(0), where);
         Due.due(told + ": rain(1)", c.rain(1), many);
     }
@@ -145,7 +145,7 @@ public final class BestTest {
         Due.due("rain(2)", c.rain(2), -1);
     }
 
-    private static void luck(CoachCourt c, int v, int p, long above, long below) {
+    static void luck(CoachCourt c, int v, int p, long above, long below) {
         Due.due("luck(" + v + ", " + p + ", 0)", c.luck(v, p, 0), above);
         Due.due("luck(" + v + ", " + p + ", 1)", c.luck(v, p, 1), below);
     }
@@ -174,7 +174,7 @@ public final class BestTest {
         Due.due("luck(0, 0, 0) of nobody", Due.told("mile 0 0;").luck(0, 0, 0), -1);
     }
 
-    private static void mean(CoachCourt c, int v, long above, long below) {
+    static void mean(CoachCourt c, int v, long above, long below) {
         Due.due("mean(" + v + ", 0)", c.mean(v, 0), above);
         Due.due("mean(" + v + ", 1)", c.mean(v, 1), below);
     }

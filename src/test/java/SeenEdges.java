@@ -1,6 +1,7 @@
 /** Promises 27 to 32: what was seen, stands by a seed. */
 final class SeenEdges {
     private static final String ROAD = "mile 0 0;mile 1 0;mile 0 0;plain 99 1 0 1;";
+    private static final String DRIFT = "mile 0 0;mile 1 1;mile 2 0;mile 0 2;mile 1 0;plain 12 2 0 1;rider 9 1 1 0;lame 30 4 2 3;room 2;";
 
     private SeenEdges() { }
 
@@ -107,25 +108,20 @@ final class SeenEdges {
         Due.due("laws(0) of nobody", Due.told("mile 0 0;").laws(0), -1);
     }
 
-    private static void look(String told, CoachCourt c, int whom, int many) {
-        Due.due(told + ": look(0)", c.look(0), whom);
-        Due.due(told + ": look(1)", c.look(1), many);
-    }
-
     private static void look() {
         Sentence.of(31, "Of whom to look at the VERDICT, so that of those signposts that may be turned (none among them) fewest are left at the worst (by its MILE, or none)");
-        look("MILE 2, or MILE 1 twice", Due.told(ROAD), 0, 2);
-        look("MILE 0, or none", Due.told("mile 0 0;mile 1 0;plain 3 1 1 0;"), 0, 1);
-        look("fewest by the second", Due.told(ROAD + "plain 99 1 1 0;"), 1, 1);
+        SeenTest.look("MILE 2, or MILE 1 twice", Due.told(ROAD), 0, 2);
+        SeenTest.look("MILE 0, or none", Due.told("mile 0 0;mile 1 0;plain 3 1 1 0;"), 0, 1);
+        SeenTest.look("fewest by the second", Due.told(ROAD + "plain 99 1 1 0;"), 1, 1);
         CoachCourt c = Due.told(ROAD + "plain 99 1 1 0;");
         c.see(0, 1);
-        look("two are left, apart", c, 1, 1);
+        SeenTest.look("two are left, apart", c, 1, 1);
         Twins.asked("look", (x, a) -> x.look(a[0]), 0);
         Sentence.of(31, "fewer than now");
         c.forget(0);
         c.see(1, 0);
-        look("one is left", c, -4, -4);
-        look("all alike", Due.told("mile 0 0;mile 1 0;plain 99 1 2 0;"), -4, -4);
+        SeenTest.look("one is left", c, -4, -4);
+        SeenTest.look("all alike", Due.told("mile 0 0;mile 1 0;plain 99 1 2 0;"), -4, -4);
         Sentence.of(31, "the first PARTY (what 0)");
         Due.due("two that are alike", Due.told(ROAD + "plain 99 1 0 1;").look(0), 0);
         Due.due("the last of four", Due.told("mile 0 0;mile 1 0;" + "plain 9 1 3 0;".repeat(3) + "plain 3 1 1 0;").look(0), 3);
@@ -140,15 +136,13 @@ final class SeenEdges {
         Sentence.of(31, "BAD");
         Twins.bad("look", (x, a) -> x.look(a[0]), new int[] {0}, 0, -1, 2);
         Sentence.of(31, "NONE: of nobody.");
-        look("no road", new CoachCourt(), -4, -4);
-        look("nobody", Due.told("mile 0 0;mile 1 0;"), -4, -4);
-        look("one MILE", Due.told("mile 0 0;plain 9 1 0 0;"), -4, -4);
+        SeenTest.look("no road", new CoachCourt(), -4, -4);
+        SeenTest.look("nobody", Due.told("mile 0 0;mile 1 0;"), -4, -4);
+        SeenTest.look("one MILE", Due.told("mile 0 0;plain 9 1 0 0;"), -4, -4);
         CoachCourt c = Due.told(ROAD);
         c.see(0, 7);
-        look("none is left", c, -4, -4);
+        SeenTest.look("none is left", c, -4, -4);
     }
-
-    private static final String DRIFT = "mile 0 0;mile 1 1;mile 2 0;mile 0 2;mile 1 0;plain 12 2 0 1;rider 9 1 1 0;lame 30 4 2 3;room 2;";
 
     /** The same steps, taken by stand() and with numbers too wide to wrap by themselves. */
     private static void drift(int seed, int n) {

@@ -105,7 +105,7 @@ public final class SeenTest {
         Due.due("laws(2)", c.laws(2), -1);
     }
 
-    private static void look(String told, CoachCourt c, int whom, int many) {
+    static void look(String told, CoachCourt c, int whom, int many) {
         Due.due(told + ": look(0)", c.look(0), whom);
         Due.due(told + ": look(1)", c.look(1), many);
     }

@@ -96,7 +96,7 @@ final class SheetEdges {
         Due.due("gone: back(1)", one.back(1), -2);
     }
 
-    /** Each cell of a sheet, as party 0's stone that it is: the first of the two is cell 0, which must be 0. */
+    /** Of CELLS that are all 0 twenty times PARTY 0 and stone 0 come; of CELLS that are all 5 none does. */
     private static void sheet() {
         Sentence.of(35, "A SHEET is a new row of CELLS 0: 1.");
         CoachCourt c = Due.told(ROAD);
